@@ -58,7 +58,7 @@ final class Due {
         return v;
     }
 
-    /** All that can be told of an object without changing it, in one line. */
+    /** What can be told of an object without changing it, in one line; some hundred calls. */
     static String state(BirthWeeks w) {
         StringBuilder s = new StringBuilder();
         for (int what = 0; what <= 9; what++) {
@@ -74,7 +74,7 @@ final class Due {
         }
         for (int slot = 0; slot < 5; slot++) {
             s.append(w.ask(slot, 0)).append(' ').append(w.rest(slot, 1000)).append(' ');
-            for (int place = -1; place <= 24; place++) {
+            for (int place = 0; place <= 2; place++) {
                 s.append(w.item(slot, place)).append(' ');
             }
         }
