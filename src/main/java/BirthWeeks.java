@@ -508,7 +508,7 @@ public final class BirthWeeks {
             return NOTHING;
         }
         Slot s = slots[slot];
-        int held = s.thing;
+        int was = s.thing;
         s.thing = thing;
         if (thing == HOLDS_DISTRICT) {
             s.district.becomeLike(now.districts[k]);
@@ -517,7 +517,7 @@ public final class BirthWeeks {
         } else {
             s.number = k;
         }
-        return held;
+        return was;
     }
 
     public int ask(int slot, int kind) {

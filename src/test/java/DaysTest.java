@@ -229,9 +229,22 @@ public final class DaysTest {
         w.set(1, 2, 2);
         Due.is("16: too far off", w.trader(0, 2), 1);
         Due.is("16: near enough from there", w.trader(1, 2), 1);
+        traderEndsAnywhere();
         w.days(1);
         Due.is("16: a fair now counts", w.trader(0, 0), 1);
         Due.is("16: a fair now counts", w.trader(2, 0), 0);
+    }
+
+    private static void traderEndsAnywhere() {
+        for (int best = 0; best < 4; best++) {
+            BirthWeeks w = new BirthWeeks();
+            for (int i = 0; i < 4; i++) {
+                w.district(5, 1);
+                w.set(i, 2, i == best ? 7 : 2);
+            }
+            Due.is("16: the only fair is in " + best, w.trader(best, 2), 1);
+            Due.is("16: the only fair is in " + best, w.trader(best == 3 ? 2 : best + 1, 2), 1);
+        }
     }
 
     /** Every way that a trader can go, one by one. */
@@ -319,9 +332,18 @@ public final class DaysTest {
         ratedByTrying(1, "birth x * 2 - (p > 20)", 0, 7, 30, 20, 60, 15, 44);
         ratedByTrying(1, "", 1, none, 12, none, 35);
         ratedByTrying(1, "", 0, 7);
+        ratedByTrying(0, "", 0, 7, 60);
+        ratedByTrying(0, "birth 9", 0, 7, 48);
     }
 
     private static void sixWeeksAlone() {
+        BirthWeeks v = new BirthWeeks();
+        v.district(5, 3);
+        v.set(0, 2, 60);
+        v.sheet(0, 0, 2);
+        v.mark(0, 0, 60);
+        v.mark(0, 1, 2);
+        Due.is("19: a whole week of 60", v.rated(0, 0, 1), 0);
         BirthWeeks w = new BirthWeeks();
         w.district(2, 4);
         w.sheet(0, 1, 8);

@@ -7,6 +7,8 @@ public final class RowsTest {
         checkAtTheLastDay();
         keepAndBack();
         textsOfAnImage();
+        newBehindAnImage();
+        sixDistricts();
         count();
         Due.end();
     }
@@ -219,6 +221,57 @@ public final class RowsTest {
         Due.is("38: another second", Due.text(w, "birth 3 + x"), 1);
         Due.is("38: another second", w.textTold(1, 1), 2);
         Due.is("38: the first counts", w.fine(), 1);
+    }
+
+    private static void newBehindAnImage() {
+        BirthWeeks w = new BirthWeeks();
+        w.keep();
+        w.district(5, 3);
+        w.set(0, 2, 9);
+        w.days(13);
+        w.hide(0);
+        w.back();
+        Due.is("38: no DISTRICTS", w.told(0, 0), Due.BAD);
+        w.district(4, 2);
+        int[] due = {4, 2, 0, 7, 0, 0, 0, 0};
+        for (int what = 0; what < due.length; what++) {
+            Due.is("38: a new DISTRICT has nothing of an old one, " + what, w.told(0, what), due[what]);
+        }
+    }
+
+    private static void sixDistricts() {
+        BirthWeeks w = new BirthWeeks();
+        for (int i = 0; i < 6; i++) {
+            w.district(5, i);
+        }
+        w.keep();
+        w.days(2);
+        Due.is("39: PURSES of six", w.count(5), -24);
+        Due.text(w, "fine b");
+        Due.is("20: BORN of six", w.fine(), 30);
+        w.tell(0);
+        w.tell(-12);
+        w.tell(6);
+        w.tell(-24);
+        Due.is("36: FAIRS and PURSES of six", w.check(2), 0);
+        w.sheet(0, 0, 24);
+        Due.is("28: RATES of six", w.pour(0), 5);
+        w.back();
+        Due.is("38: six", w.back(), 6);
+        // one goes, and is not counted any more
+        BirthWeeks v = new BirthWeeks();
+        v.district(5, 1);
+        v.keep();
+        v.district(5, 1);
+        v.days(2);
+        v.set(1, 3, 77);
+        v.back();
+        v.rule(2, 0);
+        Due.text(v, "fine b");
+        Due.is("39: PURSES of one", v.count(5), 0);
+        Due.is("20: BORN of one", v.fine(), 0);
+        v.sheet(0, 0, 24);
+        Due.is("28: RATES of one", v.pour(0), 1);
     }
 
     private static void count() {

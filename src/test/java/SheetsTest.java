@@ -34,11 +34,13 @@ public final class SheetsTest {
         Due.is("26: sheet(3, 1, 0)", w.sheet(3, 1, 0), 0);
         Due.is("26: no places", w.mark(3, 0, 1), Due.INDEX);
         w.mark(0, 23, 5);
+        w.mark(0, 0, 6);
         Due.is("26: refused, it stays", w.sheet(0, 1, -1), Due.SIZE);
         Due.is("26: refused, it stays", w.sheet(0, 1, 25), Due.BAD);
         Due.is("26: refused, it stays", at(w, 0, 23), 5);
         Due.is("26: sheet(0, 0, 24) again", w.sheet(0, 0, 24), 24);
         Due.is("26: all 0", at(w, 0, 23), 0);
+        Due.is("26: all 0", at(w, 0, 0), 0);
         Due.is("26: MISSING, n any", w.sheet(0, -1, 99), 0);
         Due.is("26: MISSING", w.mark(0, 0, 1), Due.NOTHING);
         w.sheet(1, 1, 3);

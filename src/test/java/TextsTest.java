@@ -133,6 +133,14 @@ public final class TextsTest {
         fault("birth \u0000x", 6);
         fault("birth X", 6);
         fault("birth 1 2", 8);
+        fault("birth xz", 6);
+        fault("birth xa", 6);
+        fault("birthz x", 0);
+        fault("xirth x", 0);
+        fault("birtx x", 0);
+        fault("birth 2z", 7);
+        fault("birth x9", 7);
+        fault("birth 10909", 6);
         String full = "birth " + "x+".repeat(44) + "x ";
         fault(full, -1);
         fault(full.substring(0, 95) + "+", 96);
@@ -213,6 +221,13 @@ public final class TextsTest {
         gives("8/!0", 8);
         gives("1<2&3>2|0", 1);
         gives("0-1<0", 1);
+        BirthWeeks w = new BirthWeeks();
+        w.district(0, 9);
+        w.days(3);
+        Due.text(w, "birth 0 + p");
+        Due.is("23: birth 0 + p", w.births(0, 9), 3);
+        Due.text(w, "birth l * 1 - x * 2");
+        Due.is("23: birth l * 1 - x * 2", w.births(0, 2), 3);
     }
 
     private static void textTold() {
