@@ -1,5 +1,10 @@
 /** Calls by their names. */
 final class Calls {
+    /** Each call with how many arguments it has. */
+    static final String FACE = "district:2 told:2 births:2 as:2 turns:2 set:3 hide:1 rule:2 deal:1 seed:1 days:1 "
+            + "behind:3 meets:2 sundays:2 trader:2 richest:1 brings:2 rated:3 fine:0 feed:3 trim:1 text:0 textTold:2 "
+            + "why:1 sheet:3 mark:3 pour:1 reads:2 copy:5 lay:3 ask:2 item:2 rest:2 tell:1 check:1 keep:0 back:0 count:1";
+
     private Calls() {
     }
 

@@ -79,6 +79,9 @@ public final class EndsTest {
                 "behind(0, 0, 3) = 3", "behind(0, 0, 4) = -6", "behind(0, 300, 0) = 43", "behind(0, 300, 1) = 7",
                 "behind(0, 300, 2) = 2", "behind(0, 300, 3) = 2", "behind(0, 300, 4) = 254", "behind(0, 301, 0) = BAD",
                 "behind(0, -1, 0) = BAD");
+        promise("13: WEEK, from now on",
+                "district(5, 1) = 0", "days(15) = 2", "behind(0, 0, 0) = 2", "behind(0, 300, 0) = 45", "behind(0, 6, 0) = 3",
+                "behind(0, 5, 0) = 2", "behind(0, 0, 0) = 2");
         promise("14: (or of one told twice); NONE: not by then",
                 "district(5, 1) = 0", "meets(0, 0) = 2", "days(2) = 0", "meets(0, 0) = 0", "days(1) = 0", "meets(0, 0) = 6",
                 "rule(2, 7) = 2", "meets(0, 0) = NONE");
@@ -275,6 +278,13 @@ public final class EndsTest {
         promise("38: All is as THE IMAGE: no DISTRICTS",
                 "keep() = 0", "deal(6) = 6", "days(9)", "back() = 0", "count(0) = 0", "told(0, 0) = BAD", "richest(0) = NONE",
                 "count(5) = 0", "count(9) = 1", "deal(6) = 6", "count(9) = 836760821", "told(0, 5) = 0", "told(5, 7) = 0");
+        promise("38: All is as THE IMAGE: a DISTRICT that comes then is new",
+                "keep() = 0", "district(5, 3) = 0", "days(9) = 1", "hide(0) = 1", "back() = 0", "district(4, 2) = 0", "told(0, 0) = 4",
+                "told(0, 1) = 2", "told(0, 2) = 0", "told(0, 3) = 7", "told(0, 4) = 0", "told(0, 5) = 0", "told(0, 6) = 0",
+                "told(0, 7) = 0");
+        promise("38: All is as THE IMAGE: WEEK",
+                "district(5, 1) = 0", "days(15) = 2", "keep() = 1", "days(7) = 1", "told(0, 2) = 3", "back() = 1", "told(0, 2) = 2",
+                "days(300) = 43", "back() = 1", "told(0, 2) = 2");
         promise("38: All is as THE IMAGE: room for TEXTS again",
                 "'fine 1' = 0", "keep() = 0", "13 x 'fine 2'", "'fine 3' = FULL", "back() = 0", "count(6) = 1", "fine() = 1",
                 "why(2) = 0", "'fine 3' = 1", "fine() = 3", "back() = 0", "fine() = 1", "textTold(1, 0) = BAD");

@@ -1,4 +1,5 @@
 import java.nio.charset.StandardCharsets;
+import java.util.Arrays;
 import java.util.Map;
 import java.util.regex.Matcher;
 import java.util.regex.Pattern;
@@ -19,10 +20,17 @@ final class Script {
 
     private final BirthWeeks w = new BirthWeeks();
     private final String name;
+    /** Null, or what must answer every call alike. */
+    private final Model beside;
     private int calls = 0;
 
     Script(String name, String... rows) {
+        this(name, null, rows);
+    }
+
+    Script(String name, Model beside, String... rows) {
         this.name = name;
+        this.beside = beside;
         run(rows);
     }
 
@@ -72,12 +80,21 @@ final class Script {
         return one("trim", bytes.length);
     }
 
-    private int one(String call, int... a) {
+    int one(String call, int... a) {
         calls++;
         if (calls > MOST_CALLS) {
             Due.holds(name + ": no more than " + MOST_CALLS + " calls", calls != MOST_CALLS + 1);
         }
-        return Calls.on(w, call, a);
+        int got = Calls.on(w, call, a);
+        if (beside != null) {
+            int due = beside.call(call, a);
+            Due.is(got == due ? name : name + ": " + call + Arrays.toString(a), got, due);
+        }
+        return got;
+    }
+
+    int callsLeft() {
+        return MOST_CALLS - calls;
     }
 
     private static int number(String word) {

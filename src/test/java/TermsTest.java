@@ -240,6 +240,13 @@ public final class TermsTest {
         sentence("LONG of its k-th week (this one is 0)",
                 "district(5, 4) = 0", "set(0, 2, 5) = 7", "days(3) = 0", "sheet(0, 0, 1) = 1", "mark(0, 0, 5)", "rated(0, 0, 1) = 0",
                 "sheet(0, 0, 2) = 2", "mark(0, 0, 5)", "mark(0, 1, 28)", "rated(0, 0, 0) = 8", "rated(0, 0, 1) = 0");
+        sentence("LONG of its k-th week, behind a whole week of 60 days",
+                "district(5, 3) = 0", "set(0, 2, 60) = 7", "sheet(0, 0, 2) = 2", "mark(0, 0, 60)", "mark(0, 1, 2)",
+                "rated(0, 0, 0) = 0", "rated(0, 0, 1) = 0");
+        sentence("the RATE 0 .. 9: the least of them, and the greatest",
+                "district(5, 5) = 0", "days(2) = 0", "sheet(0, 0, 2) = 2", "mark(0, 0, 7)", "mark(0, 1, 10)", "rated(0, 0, 0) = 0",
+                "rated(0, 0, 1) = 0", "mark(0, 1, 55)", "rated(0, 0, 0) = 9", "rated(0, 0, 1) = 0", "mark(0, 1, 60)",
+                "rated(0, 0, 0) = 9", "rated(0, 0, 1) = 5");
         sentence("differ least (signs left out), together",
                 "district(5, 9) = 0", "sheet(0, 1, 2) = 2", "mark(0, 0, 10)", "mark(0, 1, 5)", "rated(0, 0, 0) = 1",
                 "rated(0, 0, 1) = 5", "mark(0, 0, -99999)", "mark(0, 1, 99999)", "rated(0, 0, 0) = 9", "rated(0, 0, 1) = 199945");
@@ -267,7 +274,8 @@ public final class TermsTest {
     private static void names() {
         sentence("KEY: birth | wage | fine",
                 "'birth 1' = 0", "'wage 1' = 1", "'fine 1' = 2", "'birt 1' = -100", "'births 1' = -100", "'fin 1' = -100",
-                "'fines 1' = -100", "'wag 1' = -100", "'wages 1' = -100", "'x' = -100", "'1' = -100", "'(fine 1)' = -100");
+                "'fines 1' = -100", "'wag 1' = -100", "'wages 1' = -100",
+                "'xirth 1' = -100", "'birtx 1' = -100", "'xage 1' = -100", "'wagx 1' = -100", "'xine 1' = -100", "'finx 1' = -100", "'x' = -100", "'1' = -100", "'(fine 1)' = -100");
         sentence("PIECE: NUMBER (1 to 4 digits)",
                 "'fine 0' = 0", "fine() = 0", "'fine 9' = 1", "fine() = 9", "'fine 9999' = 2", "fine() = 9999", "'fine 0000' = 3",
                 "fine() = 0", "'fine 0010' = 4", "fine() = 10", "'fine 10000' = -105", "'fine 00000' = -105", "count(6) = 5");
@@ -291,7 +299,7 @@ public final class TermsTest {
         sentence("or of digits, as long as it goes",
                 "'fine 09' = 0", "fine() = 9", "'fine 90' = 1", "fine() = 90", "'fine 1:' = -106", "'fine 1/' = -107");
         sentence("any other byte is a sign by itself",
-                "'fine \u0000' = -105", "'fine \u0001' = -105", "'fine 1\u00ff' = -106", "'fine 1\u0080' = -106",
+                "'fine \u0000' = -105", "'fine 1\u0000' = -106", "'\u0000' = -100", "'fine \u0001' = -105", "'fine 1\u00ff' = -106", "'fine 1\u0080' = -106",
                 "'fine 1\u00e1' = -106", "'fine 1\u00b1' = -106", "'fine 1++1' = -107", "'fine 1<>1' = -107", "'fine 1&&1' = -107");
         sentence("Between words and signs, and at the ends, there may be blanks (byte 32)",
                 "'  fine  1  +  2  ' = 0", "fine() = 3", "'fine(1+2)' = 1", "fine() = 3", "'fine ! ( ! 3 ) ' = 2", "fine() = 1",
