@@ -98,6 +98,9 @@ public final class EndsTest {
         promise("18: for n (0 .. 300)",
                 "district(5, 1) = 0", "days(1) = 0", "brings(0, 0) = 0", "brings(0, 299) = 20", "brings(0, 300) = 0",
                 "brings(0, 301) = BAD", "brings(0, -1) = BAD", "hide(0) = 1", "brings(0, 5) = NO");
+        promise("18: less as it is: by a TEXT, and below 0",
+                "district(5, 1) = 0", "days(1) = 0", "'wage l' = 0", "brings(0, 11) = 0", "brings(0, 12) = 6", "brings(0, 13) = -1",
+                "brings(0, 19) = 6", "told(0, 7) = -2");
         promise("19: what 0 the RATE, 1 the differences, together",
                 "district(5, 1) = 0", "sheet(3, 1, 24) = 24", "rated(3, 0, 0) = 0", "rated(3, 0, 1) = 17", "sheet(3, 1, 2) = 2",
                 "mark(3, 1, 99999) = 1", "rated(3, 0, 0) = 9", "rated(3, 0, 1) = 99946", "told(0, 1) = 1");
@@ -267,6 +270,11 @@ public final class EndsTest {
         promise("36: THE DAY there is that of THE IMAGE",
                 "333 x days(300)", "days(97)", "district(5, 1) = 0", "keep() = 1", "days(300)", "count(1) = 99999", "tell(0) = 1",
                 "tell(-2) = 2", "tell(1) = 3", "tell(-4) = 4", "check(30) = 0", "check(2) = 1");
+        promise("36: by THE IMAGE: its TEXTS and what ruled then",
+                "district(5, 1) = 0", "'wage 5' = 0", "rule(2, 6) = 2", "keep() = 1", "'wage 9' = 1", "'birth 9' = 2",
+                "turns(0, 0) = 5", "rule(1, 0) = 2", "rule(2, 0) = 6", "tell(0)", "tell(-2)", "tell(0)", "tell(-4)", "tell(0)",
+                "tell(-6)", "tell(0)", "tell(-8)", "tell(0)", "tell(-10)", "tell(1)", "tell(-12)", "tell(0)", "tell(-9)",
+                "check(7) = 0");
         promise("36: without DISTRICTS", "keep() = 0", "tell(0) = 1", "tell(0) = 2", "check(1) = 0", "tell(1) = 1", "check(1) = 1");
     }
 
@@ -308,5 +316,14 @@ public final class EndsTest {
                 "6 x district(5, 1)", "set(0, 3, 99999)", "set(1, 3, 99999)", "set(2, 3, 99999)", "set(3, 3, 99999)",
                 "set(4, 3, 99999)", "set(5, 3, 99999)", "count(5) = 599994", "set(0, 3, -99999)", "set(1, 3, -99999)",
                 "set(2, 3, -99999)", "set(3, 3, -99999)", "set(4, 3, -99999)", "set(5, 3, -99999)", "count(5) = -599994");
+        // 49997 weeks of 9999 each; that an int is answered is all the document says of so great a sum
+        promise("39: PURSES of all, together, where they are most",
+                "rule(1, 0) = 2", "'wage 9999' = 0", "district(5, 0) = 0", "district(5, 0) = 1", "district(5, 0) = 2",
+                "district(5, 0) = 3", "333 x days(300)", "days(99) = 200", "count(1) = 99999", "told(0, 2) = 49997",
+                "told(0, 7) = 499920003", "told(3, 7) = 499920003", "count(5) = 1999680012", "richest(0) = 0",
+                "behind(0, 300, 4) = 501419853", "days(300) = 0", "count(5) = 1999680012");
+        promise("39: PURSES of all, together, beyond an int: it wraps",
+                "rule(1, 0) = 2", "'wage 9999' = 0", "6 x district(5, 0)", "333 x days(300)", "days(99) = 300",
+                "told(5, 7) = 499920003", "count(5) = -1295447278");
     }
 }

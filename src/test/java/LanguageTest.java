@@ -30,6 +30,9 @@ public final class LanguageTest {
         for (Method m : BirthWeeks.class.getDeclaredMethods()) {
             if (!Modifier.isPrivate(m.getModifiers())) {
                 Due.holds("rule 1: " + m, Modifier.isPublic(m.getModifiers()) && m.getReturnType() == int.class);
+                for (Class<?> type : m.getParameterTypes()) {
+                    Due.holds("rule 1: the arguments of " + m, type == int.class);
+                }
                 methods.add(m.getName() + ":" + m.getParameterCount());
             }
         }
@@ -38,13 +41,16 @@ public final class LanguageTest {
         for (Field f : BirthWeeks.class.getDeclaredFields()) {
             if (!Modifier.isPrivate(f.getModifiers())) {
                 constants.add(f.getName());
-                Due.holds("rule 1: " + f, Modifier.isPublic(f.getModifiers()) && Modifier.isStatic(f.getModifiers()));
+                Due.holds("rule 1: " + f, Modifier.isPublic(f.getModifiers()) && Modifier.isStatic(f.getModifiers())
+                        && f.getType() == int.class);
             }
         }
         Due.holds("rule 1: the constants", constants.equals(new TreeSet<>(List.of(CONSTANTS.split(" ")))));
         Constructor<?>[] made = BirthWeeks.class.getDeclaredConstructors();
-        Due.holds("rule 1: the constructor", made.length == 1 && made[0].getParameterCount() == 0);
-        Due.holds("rule 1: final", Modifier.isFinal(BirthWeeks.class.getModifiers()));
+        Due.holds("rule 1: the constructor", made.length == 1 && made[0].getParameterCount() == 0
+                && Modifier.isPublic(made[0].getModifiers()));
+        Due.holds("rule 1: public and final", Modifier.isPublic(BirthWeeks.class.getModifiers())
+                && Modifier.isFinal(BirthWeeks.class.getModifiers()));
     }
 
     private static void inside() {

@@ -747,7 +747,7 @@ final class Model {
                 for (int i = 0; i < a[0] && w.day < 99999; i++) {
                     w = w.after(1);
                     due.add((long) w.fairs());
-                    due.add(w.purses());
+                    due.add((long) (int) w.purses());
                 }
                 int same = 0;
                 while (same < Math.min(told.size(), due.size()) && told.get(same).equals(due.get(same))) {

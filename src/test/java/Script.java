@@ -99,6 +99,6 @@ final class Script {
 
     private static int number(String word) {
         Integer named = WORDS.get(word);
-        return named != null ? named : Integer.parseInt(word);
+        return named != null ? named : Integer.decode(word);
     }
 }

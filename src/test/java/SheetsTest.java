@@ -168,7 +168,7 @@ public final class SheetsTest {
         Due.is("30: last", at(w, 1, 2), 13);
         Due.is("30: upwards in one", w.copy(0, 0, 0, 1, 4), 4);
         int[] up = {10, 10, 11, Due.KIND, 13};
-        Due.is("30: downwards in one", rowIs(w, up), 1);
+        Due.is("30: upwards in one", rowIs(w, up), 1);
         w = twoRows();
         w.copy(0, 1, 0, 0, 4);
         int[] down = {11, Due.KIND, 13, 14, 14};

@@ -354,6 +354,10 @@ public final class TermsTest {
                 "fine() = -2147483648", "'fine 2*1024*1024*1024-1' = 2", "fine() = 2147483647",
                 "'fine (2*1024*1024*1024-1)+1' = 3", "fine() = -2147483648", "'fine (2*1024*1024*1024)/(0-1)' = 4",
                 "fine() = -2147483648");
+        sentence("Ints wrap, ahead of what they are held within",
+                "district(0, 3) = 0", "district(5, 1) = 1", "rule(1, 0) = 2", "'birth 2*1024*1024*1024' = 0", "births(0, 9) = 0",
+                "'birth 2*1024*1024*1024-1' = 1", "births(0, 0) = 30", "'wage 2*1024*1024*1024' = 2", "days(7) = 2",
+                "told(1, 7) = 0", "'wage 2*1024*1024*1024-1' = 3", "days(7) = 1", "told(1, 7) = 9999");
         sentence("/ is 0 by 0", "'fine 5/0' = 0", "fine() = 0", "'fine 0/0' = 1", "fine() = 0", "'fine 3+5/d' = 2", "fine() = 3",
                 "'fine (0-5)/0*2+1' = 3", "fine() = 1");
         sentence("tests give 1 or 0",
